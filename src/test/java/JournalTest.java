@@ -15,6 +15,7 @@ public final class JournalTest {
         undo();
         latestSix();
         undoRestoresEverything();
+        undoRestoresRows();
         undoLeavesBuffers();
         callsThatChangeNothing();
         Check.end();
@@ -179,6 +180,35 @@ public final class JournalTest {
         Check.due("29 other bytes", x.partByte(1, 0), 'x');
         Check.due("16 other sender", x.message(1, 0), 1);
         Check.refused("20 other recipients", NoSuchElementException.class, () -> x.state(1, 1));
+    }
+
+    private static void undoRestoresRows() {
+        MailSpool x = new MailSpool();
+        x.advance(2);
+        Check.load(x, TEXT);
+        Check.deliver(x, 0, 1, -1, "x");
+        Check.deliver(x, 0, 1, -1, "a|b");
+        Check.deliver(x, 0, 1, -1, "a");
+        Check.due("28 two messages", x.part(1, 1), 2);
+        x.undo();
+        Check.due("57 one message", x.part(1, 1), 1);
+        Check.load(x, TEXT);
+        x.advance(1);
+        Check.deliver(x, 1, 2, -1, "p|qq");
+        Check.due("28 first message", x.part(1, 3), 0);
+        x.undo();
+        x.undo();
+        x.undo();
+        Check.due("57 first message", x.part(1, 3), 1);
+        Check.due("57 bytes", x.partByte(1, 0), 'a');
+        Check.due("57 size", x.part(1, 0), 1);
+        Check.due("57 events", Check.events(x), "0:1:0 0:1:1");
+        Check.due("57 sender", x.message(0, 0), 0);
+        Check.due("57 class", x.classOf(0, 0), 0);
+        x.undo();
+        x.undo();
+        x.undo();
+        Check.due("57 events before the first load", Check.events(x), "1:9:0 1:10:1 2:9:0 2:10:2");
     }
 
     private static void undoLeavesBuffers() {

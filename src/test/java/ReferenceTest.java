@@ -17,6 +17,7 @@ public final class ReferenceTest {
         file();
         delete();
         recover();
+        otherUser();
         Check.end();
     }
 
@@ -147,13 +148,17 @@ public final class ReferenceTest {
         Check.deliver(x, 0, 3, 2, "atax|taxa|TAX|ta x");
         x.advance(2);
         Check.deliver(x, 0, 3, 2, "1tax2");
-        x.advance(2);
+        x.advance(1);
         Check.deliver(x, 0, 3, 2, "tax");
-        x.advance(6);
+        x.advance(1);
+        Check.deliver(x, 0, 3, 2, "tax");
+        x.advance(5);
+        Check.deliver(x, 0, 3, 2, "tax");
+        x.advance(1);
         Check.deliver(x, 0, 3, 2, "tax|abctaxes|taxes ");
-        int[] ofU = {1, 0, 3, 2, 0};
-        int[] ofV = {4, 0, 0, 0, 4};
-        for (int message = 0; message < 5; message++) {
+        int[] ofU = {1, 0, 3, 3, 2, 2, 0};
+        int[] ofV = {4, 0, 0, 0, 0, 0, 4};
+        for (int message = 0; message < 7; message++) {
             Check.due("25 message " + message, x.holdsOn(message, 0), ofU[message]);
             Check.due("25 message " + message, x.holdsOn(message, 1), ofV[message]);
         }
@@ -239,9 +244,11 @@ public final class ReferenceTest {
         x.advance(10);
         Check.due("20 expired", x.state(1, 0), 2);
         Check.refused("43 gone", IllegalStateException.class, () -> x.recover(0, 1));
+        x.undo();
         x.setQuota(0, 1);
+        x.advance(10);
+        Check.due("20 expired", x.state(1, 0), 2);
         int events = x.eventCount();
-        int undos = x.undoCount();
         Check.due("43 deleted", x.recover(0, 0), 1);
         Check.due("43 expired", x.recover(1, 0), 2);
         Check.due("43 live", x.readers(0), 1);
@@ -251,10 +258,40 @@ public final class ReferenceTest {
         Check.due("43 last class", x.classOf(1, 0), 0);
         Check.due("43 entered today", x.enteredOn(1, 0), 10);
         Check.due("43 no event", x.eventCount(), events);
-        Check.due("57 can be undone", x.undoCount(), Math.min(6, undos + 2));
         Check.refused("43 live", IllegalStateException.class, () -> x.recover(0, 0));
         x.undo();
         Check.due("57 hidden again", x.state(1, 0), 2);
         Check.due("57 entered", x.enteredOn(1, 0), 0);
+        Check.due("57 only the second one", x.readers(0), 1);
+        x.undo();
+        Check.due("57 hidden again", x.state(0, 0), 1);
+        Check.due("57 day", x.day(), 10);
+    }
+
+    /** The second user's references, among those of others. */
+    private static void otherUser() {
+        MailSpool x = Check.loaded(TEXT);
+        Check.deliver(x, 0, 1, -1, "one");
+        x.advance(3);
+        Check.deliver(x, 0, 3, -1, "taxes");
+        Check.deliver(x, 0, 2, -1, "taxes");
+        x.advance(2);
+        Check.deliver(x, 0, 3, -1, "more");
+        Check.due("23 v", x.expiresOn(1, 1), 13);
+        Check.due("23 v", x.expiresOn(3, 1), 15);
+        int undos = x.undoCount();
+        Check.due("41 v", x.file(3, 1, 0), 0);
+        Check.due("58 nothing changed", x.undoCount(), undos);
+        Check.due("42 v", x.delete(2, 1), 1);
+        x.advance(1);
+        Check.due("43 v", x.recover(2, 1), 1);
+        Check.due("20 v", x.state(2, 1), 0);
+        Check.due("22 v", x.enteredOn(2, 1), 6);
+        Check.due("22 another message", x.enteredOn(1, 1), 3);
+        Check.due("41 v", x.file(1, 1, 1), 0);
+        Check.due("21 v", x.classOf(1, 1), 1);
+        Check.due("21 u", x.classOf(1, 0), 1);
+        Check.due("22 v", x.enteredOn(1, 1), 6);
+        Check.due("22 u", x.enteredOn(1, 0), 3);
     }
 }

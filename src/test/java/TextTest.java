@@ -161,6 +161,7 @@ public final class TextTest {
         bad(S + "class a days 1 keep 100;", 2, 42);
         bad(S + "class a days 1 keep x;", 1, 42);
         bad(S + "class a days 1 then a;", 3, 42);
+        bad(S + "class a days 1 class b days 1;", 1, 37);
         bad(S + "class a days 1 then b;", 3, 42);
         bad(S + "class a days 1 then then;", 1, 42);
         bad(C + "class b days 1 then a keep 1;", 1, 37 + 22);
@@ -185,6 +186,7 @@ public final class TextTest {
         bad(C + "user u class a 5;", 1, 52);
         bad(U + "user u", 3, 60 + 5);
         bad(U + "group g u;user g class a quota 5;", 3, 60 + 15);
+        bad(C + "user u class a quota 5 class b days 1;", 1, 60);
         bad(U + "user v class a quota 5", 1, 60 + 22);
     }
 
@@ -204,6 +206,7 @@ public final class TextTest {
         bad(U + "group g keep;", 1, 68);
         bad(U + "group g u;group g u;", 3, 76);
         bad(U + "group g u", 1, 69);
+        bad(U + "group g u hold h user u;", 1, 70);
     }
 
     private static void holdErrors() {
@@ -230,6 +233,9 @@ public final class TextTest {
         bad(U + "hold h user u word a b;", 1, 81);
         bad(U + "hold h user u word a from 1 to 2;", 1, 81);
         bad(U + "hold h user u;hold h", 3, 79);
+        bad(U + "hold h user u class b days 1;", 1, 74);
+        bad(U + "hold h user u word a class b days 1;", 1, 81);
+        bad(U + "hold h user u from 1 to 2 class b days 1;", 1, 86);
     }
 
     private static String many(String from, String before, String after, int times) {
