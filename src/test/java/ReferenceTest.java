@@ -279,9 +279,12 @@ public final class ReferenceTest {
         Check.deliver(x, 0, 3, -1, "more");
         Check.due("23 v", x.expiresOn(1, 1), 13);
         Check.due("23 v", x.expiresOn(3, 1), 15);
-        int undos = x.undoCount();
-        Check.due("41 v", x.file(3, 1, 0), 0);
-        Check.due("58 nothing changed", x.undoCount(), undos);
+        x.undo();
+        x.undo();
+        Check.due("12 day", x.day(), 3);
+        Check.due("41 v, nothing changes", x.file(2, 1, 0), 0);
+        Check.due("58 nothing changed", x.undoCount(), 4);
+        x.advance(2);
         Check.due("42 v", x.delete(2, 1), 1);
         x.advance(1);
         Check.due("43 v", x.recover(2, 1), 1);
