@@ -282,7 +282,7 @@ public final class ReferenceTest {
         x.undo();
         x.undo();
         Check.due("12 day", x.day(), 3);
-        Check.due("41 v, nothing changes", x.file(2, 1, 0), 0);
+        Check.due("41 v, nothing changes", x.file(1, 1, 0), 0);
         Check.due("58 nothing changed", x.undoCount(), 4);
         x.advance(2);
         Check.due("42 v", x.delete(2, 1), 1);
