@@ -14,6 +14,8 @@ public final class DeliveryTest {
         mostMessages();
         fullStore();
         equalPartsCountOnce();
+        usageAgainstQuota();
+        bounceForAllChangesNoPart();
         message();
         readersAndHidden();
         Check.end();
@@ -194,6 +196,49 @@ public final class DeliveryTest {
         x.advance(5);
         Check.due("17 a part that has been removed", x.partOf(0, 0), 0);
         Check.refused("28 it is no longer there", NoSuchElementException.class, () -> x.part(0, 0));
+    }
+
+    private static void usageAgainstQuota() {
+        MailSpool x = Check.loaded("spool grace 0 round 1;class a days 3;user u class a quota 1;user v class a quota 20;hold h user v;");
+        Check.due("13 a quota of one byte", Check.deliver(x, 0, 1, -1, "ab"), -2);
+        Check.due("13 a quota of one byte", Check.deliver(x, 0, 1, -1, "a"), 0);
+        String ten = "0123456789";
+        Check.due("13 half the quota", Check.deliver(x, 0, 2, -1, ten), 1);
+        Check.due("13 just the quota", Check.deliver(x, 0, 2, -1, ten), 2);
+        Check.due("13 a byte more", Check.deliver(x, 0, 2, -1, "a"), -2);
+        x.delete(1, 1);
+        Check.due("20 hidden", x.state(1, 1), 1);
+        Check.due("13 a hidden reference takes no room", Check.deliver(x, 0, 2, -1, ten), 3);
+        x.recover(1, 1);
+        Check.due("43 more than the quota", x.usage(1), 30);
+        Check.due("13 no room", Check.deliver(x, 0, 2, -1, "a"), -2);
+        x.setQuota(1, 31);
+        Check.due("13 room for one byte", Check.deliver(x, 0, 2, -1, "ab"), -2);
+        Check.due("13 room for one byte", Check.deliver(x, 0, 2, -1, "b"), 4);
+        x.setQuota(1, 9);
+        x.advance(3);
+        Check.due("35 all have expired", x.usage(1), 0);
+        Check.due("13 more than a quota that was made less", Check.deliver(x, 0, 2, -1, ten), -2);
+        Check.due("13 each part as often as it occurs", Check.deliver(x, 0, 2, -1, "abc|abc|abc|a"), -2);
+        Check.due("13 just the quota", Check.deliver(x, 0, 2, -1, "abc|abc|abc"), 5);
+    }
+
+    private static void bounceForAllChangesNoPart() {
+        MailSpool x = Check.loaded("spool grace 1 round 1;class a days 3;user u class a quota 3;user v class a quota 2;");
+        Check.deliver(x, 0, 1, -1, "abc");
+        x.delete(0, 0);
+        Check.due("32 dead", x.deadBytes(), 3);
+        Check.due("13 bounces", Check.deliver(x, 0, 2, -1, "abc"), -2);
+        Check.due("28 still dead", x.part(0, 2), 0);
+        Check.due("28 of no message", x.part(0, 1), 0);
+        Check.due("54 no event of the part", Check.eventsFrom(x, 3), "0:2:1");
+        Check.due("13 new parts of a message that bounces", Check.deliver(x, 0, 3, -1, "wxyz|abc"), -2);
+        Check.due("26 are not stored", x.storedParts(), 1);
+        Check.due("54 no event of the part", Check.eventsFrom(x, 4), "0:2:0 0:2:1");
+        x.advance(1);
+        Check.due("26 removed", x.storedParts(), 0);
+        Check.due("13 the number of the message is not used", Check.deliver(x, 0, 1, -1, "abc"), 1);
+        Check.due("17 the number of the removed part is not used again", x.partOf(1, 0), 1);
     }
 
     private static void message() {

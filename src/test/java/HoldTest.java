@@ -10,6 +10,8 @@ public final class HoldTest {
         release();
         onlyBy();
         releaseOfExpiredOnes();
+        wordsOfHolds();
+        activeOnTheDayOfTheEnd();
         Check.end();
     }
 
@@ -103,5 +105,41 @@ public final class HoldTest {
         Check.due("28 dead", x.part(1, 2), 3);
         Check.due("48 removed", x.advance(5), 0);
         Check.due("48 removed", x.advance(1), 2);
+    }
+
+    private static void wordsOfHolds() {
+        MailSpool x = Check.loaded("spool grace 0 round 9;class a days 2;user u class a quota 999;"
+                + "hold h user u word abcdefghij;hold i user u word a;hold j user u word class;hold k user u from 1 to 1 word a;");
+        String[] contents = {"abcdefghij", "abcdefghijk", "abcdefghi", "b|1abcdefghijA", "a", "ab", "b a", "A|a", "class", "classa",
+            "a\nclass\nabcdefghij"};
+        int[] want = {1, 0, 0, 1, 2, 0, 2, 2, 4, 0, 7};
+        for (int i = 0; i < contents.length; i++) {
+            Check.deliver(x, 0, 1, -1, contents[i]);
+            Check.due("25 " + contents[i], x.holdsOn(i, 0), want[i]);
+            Check.due("42 " + contents[i], x.delete(i, 0), want[i] == 0 ? 3 : 1);
+        }
+        x.advance(1);
+        Check.deliver(x, 0, 1, -1, "a");
+        Check.due("25 the day and the word", x.holdsOn(contents.length, 0), 10);
+        Check.deliver(x, 0, 1, -1, "b");
+        Check.due("25 the day alone", x.holdsOn(contents.length + 1, 0), 0);
+    }
+
+    /** A hold counts if it is active when the reference ends, not before and not afterwards. */
+    private static void activeOnTheDayOfTheEnd() {
+        MailSpool x = Check.loaded("spool grace 0 round 9;class a days 2;user u class a quota 99;hold h user u;");
+        x.setHold(0, false);
+        Check.deliver(x, 0, 1, -1, "m");
+        Check.deliver(x, 0, 1, -1, "n");
+        Check.due("42 not active", x.delete(0, 0), 3);
+        x.advance(1);
+        x.setHold(0, true);
+        x.advance(1);
+        Check.due("20 active on the day of the end", x.state(1, 0), 2);
+        Check.due("20 gone before", x.state(0, 0), 3);
+        Check.due("54 events", Check.eventsFrom(x, 5), "2:5:1 2:10:2");
+        Check.due("45 released", x.setHold(0, false), 1);
+        Check.due("20 gone", x.state(1, 0), 3);
+        Check.due("28 dead since the release", x.part(1, 2), 2);
     }
 }

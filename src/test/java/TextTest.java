@@ -80,7 +80,7 @@ public final class TextTest {
         Check.due("3 goes on behind the rest", x.append(0, 0, 0, 0, 0), 27);
     }
 
-    private static void good(String text, int users) {
+    static void good(String text, int users) {
         MailSpool x = new MailSpool();
         Check.due("4 load of " + text, Check.load(x, text), users);
         Check.due("5 no error", x.errorCode(), 0);
@@ -89,7 +89,7 @@ public final class TextTest {
         Check.due("4 can be undone", x.undoCount(), 1);
     }
 
-    private static void bad(String text, int code, int position) {
+    static void bad(String text, int code, int position) {
         MailSpool x = new MailSpool();
         Check.due("4 load of " + text, Check.load(x, text), -4);
         Check.due("5 code of " + text, x.errorCode(), code);

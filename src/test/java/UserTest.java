@@ -10,6 +10,7 @@ public final class UserTest {
         fairShare();
         inClass();
         matches();
+        maximalRuns();
         commonBytes();
         setQuota();
         Check.end();
@@ -108,6 +109,27 @@ public final class UserTest {
         Check.due("39 the buffer stays", x.matches(2), 2);
         x.delete(0, 2);
         Check.due("39 live ones only", matches(x, 2, "tax"), 1);
+    }
+
+    /** The bytes next to a and z in their order are no letters; an eleventh letter makes another word. */
+    private static void maximalRuns() {
+        MailSpool x = Check.loaded(TEXT);
+        x.setQuota(0, 999);
+        String[] with = {"tax", "`tax{", "TAXtaxTAX", "0tax1", "\u00e1tax\u00fa", "xtax tax", "tax taxx", "x|y|z|tax", "tax|x",
+            "t tax", "\u0000tax\n", "taxtax.tax"};
+        String[] without = {"xtax", "taxx", "ta|x", "ta x", "TAX", "tA x", "t.ax", "taxtax", "ta", "abcdefghijktax", "taxabcdefghijk"};
+        for (String content : with) {
+            Check.deliver(x, 0, 1, -1, content);
+            Check.due("39 " + content, matches(x, 0, "tax"), x.messageCount());
+        }
+        for (String content : without) {
+            Check.deliver(x, 0, 1, -1, content);
+            Check.due("39 " + content, matches(x, 0, "tax"), with.length);
+        }
+        Check.due("39 one letter, part of no run", matches(x, 0, "a"), 0);
+        Check.due("39 one letter", matches(x, 0, "t"), 3);
+        Check.due("39 ten letters of fourteen", matches(x, 0, "abcdefghij"), 0);
+        Check.due("39 one letter", matches(x, 0, "x"), 5);
     }
 
     private static void commonBytes() {
