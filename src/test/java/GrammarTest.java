@@ -24,6 +24,7 @@ public final class GrammarTest {
         firstError();
         statementsOfNoClassOrUser();
         statementOrder();
+        namesOfTheirOwn();
         wholeBuffer();
         Check.end();
     }
@@ -264,6 +265,20 @@ public final class GrammarTest {
         TextTest.bad(C + "class b days 1 then b;", 3, 57);
         TextTest.bad(C + "class b days 1 then c;class c days 1;", 3, 57);
         TextTest.bad(U + "class u days 1;hold u user a;", 3, 87);
+    }
+
+    /** Classes and holds have names of their own; users and groups have names in common. */
+    private static void namesOfTheirOwn() {
+        TextTest.good(C + "user a class a quota 5;hold a user a;", 1);
+        TextTest.good(C + "user u class a quota 5;hold a user u;group a u;", 1);
+        TextTest.good(U + "hold h user u;group h u;class h days 1;", 1);
+        TextTest.good(U + "group g u;class g days 1;hold g user u;", 1);
+        TextTest.bad(U + "class a days 1;", 3, 66);
+        TextTest.bad(U + "hold h user u;hold h user u;", 3, 79);
+        TextTest.bad(U + "user u class a quota 5;", 3, 65);
+        TextTest.bad(U + "group u u;", 3, 66);
+        TextTest.bad(U + "group g u;group g u;", 3, 76);
+        TextTest.bad(U + "group g u;user g class a quota 5;", 3, 75);
     }
 
     private static void wholeBuffer() {

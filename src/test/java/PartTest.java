@@ -146,5 +146,18 @@ public final class PartTest {
         x.delete(2, 0);
         Check.due("34 all dead", x.mostShared(), -1);
         Check.due("26 all dead ones are there", x.storedParts(), 4);
+        MailSpool y = Check.loaded(TEXT);
+        Check.deliver(y, 0, 1, -1, "a");
+        Check.deliver(y, 0, 4, -1, "b");
+        Check.deliver(y, 0, 4, -1, "b");
+        y.delete(1, 2);
+        y.delete(2, 2);
+        Check.due("19 hidden", y.hidden(1), 4);
+        Check.due("34 hidden references keep messages", y.mostShared(), 1);
+        y.delete(0, 0);
+        y.advance(5);
+        Check.due("34 the first part is removed", y.mostShared(), 1);
+        y.setHold(0, false);
+        Check.due("34 none is kept", y.mostShared(), -1);
     }
 }

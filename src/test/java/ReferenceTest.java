@@ -8,6 +8,7 @@ public final class ReferenceTest {
 
     public static void main(String[] args) {
         states();
+        goneOnes();
         noReference();
         classesAndDays();
         expiresOn();
@@ -38,6 +39,31 @@ public final class ReferenceTest {
         Check.due("23 not live", x.expiresOn(1, 0), -1);
         Check.due("24 not live", x.isKept(1, 0), false);
         Check.due("25 whatever its state", x.holdsOn(1, 0), 1);
+    }
+
+    /** A reference that is gone still counts as one, with its last class and day. */
+    private static void goneOnes() {
+        MailSpool x = Check.loaded(TEXT);
+        Check.deliver(x, 0, 2, 3, "taxes");
+        Check.deliver(x, 0, 2, 0, "b");
+        x.advance(4);
+        x.setHold(2, false);
+        x.delete(0, 1);
+        Check.due("20 gone", x.state(0, 1), 3);
+        Check.due("21 the class that it had moved into", x.classOf(0, 1), 2);
+        Check.due("22 the day on which it moved", x.enteredOn(0, 1), 3);
+        Check.due("23 not live", x.expiresOn(0, 1), -1);
+        Check.due("24 not live", x.isKept(0, 1), false);
+        Check.due("25 no active hold", x.holdsOn(0, 1), 0);
+        x.setHold(2, true);
+        Check.due("25 an active one", x.holdsOn(0, 1), 4);
+        Check.refused("41 gone", IllegalStateException.class, () -> x.file(0, 1, 0));
+        Check.refused("42 gone", IllegalStateException.class, () -> x.delete(0, 1));
+        Check.refused("43 gone", IllegalStateException.class, () -> x.recover(0, 1));
+        x.advance(6);
+        Check.due("20 expired", x.state(1, 1), 3);
+        Check.due("21 the last of the ladder", x.classOf(1, 1), 0);
+        Check.due("22 its day", x.enteredOn(1, 1), 0);
     }
 
     private static void refusedFor(MailSpool x, int message, int user) {

@@ -46,7 +46,17 @@ public final class TextTest {
         Check.refused("1 no user", NoSuchElementException.class, () -> x.usage(0));
         Check.refused("1 no group", NoSuchElementException.class, () -> x.members(0));
         Check.refused("1 no hold", NoSuchElementException.class, () -> x.isActive(0));
+        for (int kind = 0; kind <= 3; kind++) {
+            Check.due("7 nothing to find of kind " + kind, find(x, kind, "a"), -1);
+            Check.refused("7 empties the buffer", IllegalArgumentException.class, () -> x.truncate(1));
+        }
         Check.due("1 load of an empty buffer", x.load(), -4);
+        Check.due("48 days without a text", x.advance(1000), 0);
+        Check.due("12 day", x.day(), 1000);
+        Check.due("56 a round on each day", x.eventsOf(9), 30);
+        Check.due("56 days", x.eventsOf(10), 30);
+        Check.due("51 empty today", x.emptyOn(), 1000);
+        Check.due("58 can be undone", x.undoCount(), 1);
     }
 
     private static void append() {
