@@ -239,6 +239,10 @@ public final class CapacityTest {
         Check.due("31 a byte less", x.storedBytes(), 7999);
         Check.fill(x, "pp");
         Check.refused("13 a byte too much", IllegalStateException.class, () -> x.deliver(0, 1, -1));
+        Check.fill(x, "p|pp");
+        Check.refused("13 two bytes too much", IllegalStateException.class, () -> x.deliver(0, 1, -1));
+        Check.fill(x, "p|q");
+        Check.refused("13 a byte too much", IllegalStateException.class, () -> x.deliver(0, 1, -1));
         Check.due("13 just full, though it bounces", Check.deliver(x, 0, 2, -1, "p|p"), -2);
         Check.due("31 nothing is stored", x.storedBytes(), 7999);
         Check.due("13 just full", Check.deliver(x, 0, 3, -1, "p|p"), 40);

@@ -148,6 +148,13 @@ public final class GrammarTest {
             if (isNumber) {
                 TextTest.bad(before + "a" + after, 1, position);
             }
+            // a symbol is not the number that stands for it, nor the other way round
+            if (tokens[i].equals(";") || tokens[i].equals(",")) {
+                TextTest.bad(before + (int) tokens[i].charAt(0) + after, 1, position);
+            }
+            if (tokens[i].matches("[1-9]")) {
+                TextTest.bad(before + (char) Integer.parseInt(tokens[i]) + after, 1, position);
+            }
             position += tokens[i].length() + 1;
         }
     }
